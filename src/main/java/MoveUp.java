@@ -301,7 +301,8 @@ public final class MoveUp {
         if (what != 0 && what < 10 || !arrivals.gatherAll()) {
             return NONE;
         }
-        arrivals.reckon();
+        arrivals.findNextOnes();
+        arrivals.countWays();
         return what == 0 ? arrivals.howMany() : arrivals.inFirst(what - 10);
     }
 
@@ -1510,8 +1511,25 @@ public final class MoveUp {
             return true;
         }
 
-        void reckon() {
-            findNextOnes();
+        // only for sets that can come about, as SITTING is asked often here
+        void findNextOnes() {
+            int all = (1 << count) - 1;
+            Arrays.fill(nextOnes, 0);
+            Arrays.fill(ways, 0);
+            ways[0] = 1;
+            for (int there = 0; there < all; there++) {
+                for (int i = 0; i < count && ways[there] > 0; i++) {
+                    int bit = 1 << i;
+                    if ((there & bit) == 0 && sitsSo(i, there)) {
+                        nextOnes[there] |= bit;
+                        ways[there | bit] = 1;
+                    }
+                }
+            }
+        }
+
+        /** From all back to nobody; whoever leads to no order is no next one any more. */
+        void countWays() {
             int all = (1 << count) - 1;
             for (int there = all; there >= 0; there--) {
                 ways[there] = there == all ? 1 : 0;
@@ -1523,23 +1541,6 @@ public final class MoveUp {
                     ways[there] += ways[there | bit];
                     if (ways[there | bit] == 0) {
                         nextOnes[there] -= bit;
-                    }
-                }
-            }
-        }
-
-        // only for sets that can come about, as SITTING is asked often here
-        private void findNextOnes() {
-            int all = (1 << count) - 1;
-            Arrays.fill(nextOnes, 0);
-            Arrays.fill(ways, 0);
-            ways[0] = 1;
-            for (int there = 0; there < all; there++) {
-                for (int i = 0; i < count && ways[there] > 0; i++) {
-                    int bit = 1 << i;
-                    if ((there & bit) == 0 && sitsSo(i, there)) {
-                        nextOnes[there] |= bit;
-                        ways[there | bit] = 1;
                     }
                 }
             }

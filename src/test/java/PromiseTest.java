@@ -345,6 +345,8 @@ public final class PromiseTest {
         due(11, "sixteen lines", Texts.tell(x, 0, "sit at;".repeat(16)), 16);
         due(11, "sixteen lines of MOVING", Texts.tell(x, 1, "cost 1;".repeat(16)), 16);
         due(11, "24 lines of A DAY", Texts.tell(x, 2, "go 0 at 7;".repeat(24)), 24);
+        due(11, "400 bytes", Texts.tell(x, 0, "sit1" + "+1".repeat(197) + " ;"), 1);
+        due(11, "their sum", x.tells(0, 0), 198);
         due(11, "eight open", Texts.tell(x, 0, "sit 1 when ((not((not((1=1))))));"), 1);
         due(11, "eight open, and eight once more", Texts.tell(x, 0,
             "sit 1 when not not not not not not not not 1=1 and ((((((((2=2))))))));"), 1);
@@ -439,6 +441,14 @@ public final class PromiseTest {
         fault(1, "sit 1;", 1, 0);
         fault(0, "sits 1;", 1, 0);
         fault(0, " Sit 1;", 1, 1);
+        fault(0, "sitz 1;", 1, 0);
+        fault(0, "sitA 1;", 1, 0);
+        fault(0, "sitZ 1;", 1, 0);
+        fault(0, "sit@1;", 1, 3);
+        fault(0, "sit`1;", 1, 3);
+        fault(0, "sit[1;", 1, 3);
+        fault(0, ";".repeat(400), 1, 0);
+        fault(0, "sit 1" + "+1".repeat(197) + "+", 1, 400);
         fault(0, "sit", 1, 3);
         fault(0, "sit 1  ", 1, 7);
         fault(0, "sit ;", 1, 4);
@@ -687,6 +697,14 @@ public final class PromiseTest {
         due(18, "stays", x.room(3, 10), 1);
         due(18, "stays", x.room(3, 11), 2);
         due(18, "is moved", x.room(3, 12), 6);
+        x = people(20, 1, 1, 1, 1, 1, 1, 1, 1, 1, 11);
+        for (int i = 0; i < 9; i++) {
+            seat(x, i, 2 * i + 1);
+        }
+        // nothing is free then: the i-th goes to i (by i + 1) or to i + 11 (by 10 - i), the first five to the left
+        due(18, "all ten", x.room(9, 0), 1 + 2 + 3 + 4 + 5 + 5 + 4 + 3 + 2);
+        due(18, "all nine are moved", x.room(9, 1), 9);
+        due(18, "behind the fifth", x.room(9, 2), 5);
         // friends need not keep off, others do
         x = new MoveUp();
         x.bench(6);
@@ -933,10 +951,12 @@ public final class PromiseTest {
         due(25, "no one stands", x.stands(0), 0);
         Texts.tell(x, 2, "come 0 at 0; go 0 at 20; come 1 at 29; come 2 at 29;");
         due(25, "WARM by 19 no more: 1 at 1 all the same", x.stands(0), 0);
-        Texts.tell(x, 0, "sit 2 when warm=2; sit 1 when at=2;");
+        Texts.tell(x, 0, "sit 2 when warm=2; sit 1 when at=2 and hour<9;");
         Texts.tell(x, 2, "come 0 at 0; go 0 at 20; come 1 at 28; come 2 at 28;");
         due(25, "2 WARM inches and 3", x.stands(0), 1);
         due(25, "at 28", x.stands(1), 28);
+        Texts.tell(x, 2, "come 0 at 0; go 0 at 20; come 1 at 29; come 2 at 29;");
+        due(25, "WARM by 19 no more at 29", x.stands(0), 0);
     }
 
     private static void undo() {
