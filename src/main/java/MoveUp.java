@@ -1405,8 +1405,8 @@ public final class MoveUp {
             Arrays.fill(oneRest, length);
             int greatest = fewest(oneRest, 0, length);
             for (int rest = 1; rest < length; rest++) {
+                // from there on it is LENGTH still
                 Arrays.fill(oneRest, 0, rest, rest);
-                Arrays.fill(oneRest, rest, length, length);
                 int fewest = fewest(oneRest, 0, length);
                 if (fewest > greatest) {
                     greatest = fewest;
